@@ -24,6 +24,9 @@ public final class ModelTest {
         long[] state = {20261118L};
         for (int run = 0; run < RUNS; run++) {
             ModelTest test = new ModelTest(state);
+            if (run % 4 != 0) {
+                test.fill(run + " at first:");
+            }
             for (int call = 0; call < CALLS / 2; call++) {
                 test.step(run + "." + call);
                 Due.due(run + "." + call + " told()", test.real.told(), test.model.told());
@@ -74,8 +77,9 @@ public final class ModelTest {
     }
 
     private long doubleBits() {
-        switch (next(6)) {
+        switch (next(7)) {
             case 0: return SPECIAL[next(SPECIAL.length)];
+            case 6: return next(2) == 0 ? 0x7FF0000000000000L | draw() << 63 : doubleBits();
             case 1: return draw();
             // A close exponent and few bits set: ties and sums that lose their leading bits.
             case 2: return (long) (1023 + next(60)) << 52 | draw() << 52 - next(53) & 0x000FFFFFFFFFFFFFL | draw() << 63;
@@ -85,8 +89,9 @@ public final class ModelTest {
     }
 
     private long floatBits() {
-        switch (next(6)) {
+        switch (next(7)) {
             case 0: return SPECIAL_FLOATS[next(SPECIAL_FLOATS.length)];
+            case 6: return next(2) == 0 ? 0x7F800000L | draw() << 31 : floatBits();
             case 1: return draw();
             case 2: return (127L + next(30)) << 23 | draw() << 23 - next(24) & 0x7FFFFFL | draw() << 31;
             default: return Float.floatToRawIntBits((float) number());
@@ -107,6 +112,25 @@ public final class ModelTest {
         return pick == 0 ? (int) draw() : pick == 1 ? (int) draw() >> next(32) : next(2000) - 1000;
     }
 
+    /** Most runs begin with ROWS, GAUGES and RACKS, so that more than FAILURES is asked for. */
+    private void fill(String call) {
+        for (int p = 0; p < 2; p++) {
+            int n = 4 + next(9);
+            Due.due(call + " row", real.row(p, p == 0, n), model.row(p, p == 0, n));
+            for (int i = 0; i < n; i++) {
+                long bits = bits(p == 0);
+                Due.due(call + " put", real.put(p, p == 0, i, bits), model.put(p, p == 0, i, bits));
+            }
+        }
+        for (int p = 0; p < 6; p++) {
+            int kind = p % 3;
+            long span = doubleBits();
+            Due.due(call + " gauge", real.gauge(p, kind, span), model.gauge(p, kind, span));
+            Due.due(call + " rack", real.rack(kind, kind), model.rack(kind, kind));
+            Due.due(call + " hang", real.hang(kind, p / 3, p), model.hang(kind, p / 3, p));
+        }
+    }
+
     private void step(String call) {
         int kind = next(100);
         if (kind < 75) {
@@ -120,14 +144,15 @@ public final class ModelTest {
         int p = place();
         boolean w = anyWidth(p);
         int i = item();
-        if (kind < 6) {
+        if (kind < 2) {
             int n = next(4) == 0 ? near(13) : 5 + next(8);
             Due.due(call + " row", real.row(p, w, n), model.row(p, w, n));
-        } else if (kind < 8) {
-            int to = place();
+        } else if (kind < 3) {
+            int to = next(2) == 0 ? place() : near(8);
             Due.due(call + " share", real.share(p, to), model.share(p, to));
-        } else if (kind < 9) {
-            Due.due(call + " clear", real.clear(p), model.clear(p));
+        } else if (kind < 4) {
+            int q = next(4) == 0 ? p : near(8);
+            Due.due(call + " clear", real.clear(q), model.clear(q));
         } else if (kind < 32) {
             long bits = bits(w);
             Due.due(call + " put", real.put(p, w, i, bits), model.put(p, w, i, bits));
@@ -164,7 +189,7 @@ public final class ModelTest {
             long bits = doubleBits();
             boolean single = next(2) == 0;
             Due.due(call + " read", real.read(p, bits, single), model.read(p, bits, single));
-        } else if (kind < 15) {
+        } else if (kind < 15 && next(4) == 0) {
             Due.due(call + " rack", real.rack(r, k), model.rack(r, k));
         } else if (kind < 18) {
             Due.due(call + " hang", real.hang(r, i, p), model.hang(r, i, p));
