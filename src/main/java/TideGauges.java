@@ -37,7 +37,7 @@ public final class TideGauges {
         if (!isBelow(place, ROW_PLACES) || !isBelow(n, MOST_ITEMS + 1)) {
             return BAD;
         }
-        rows[place] = new Row(widthOf(wide), n);
+        rows[place] = new Row(widthOf(wide), new long[n]);
         return 1;
     }
 
@@ -349,9 +349,9 @@ public final class TideGauges {
         final Width width;
         final long[] items;
 
-        Row(Width width, int n) {
+        Row(Width width, long[] items) {
             this.width = width;
-            this.items = new long[n >= 0 ? n : 0];
+            this.items = items;
         }
     }
 
@@ -575,8 +575,9 @@ public final class TideGauges {
 
         /** What is shifted out leaves the lowest bit set, so that it is not taken for a tie. */
         private static long shiftedWithTrace(long v, int by) {
+            // So far below the greater one that the sum rounds to it, with a trace or without.
             if (by > 63) {
-                return v == 0 ? 0 : 1;
+                return 0;
             }
             long kept = v >>> by;
             return kept << by == v ? kept : kept | 1;

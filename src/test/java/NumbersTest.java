@@ -20,6 +20,7 @@ public final class NumbersTest {
         promise9TideOfEndless();
         promise9TideIsWrong();
         promise10Sum();
+        promise10SumIsRounded();
         promise10SumOfFloats();
         promise10SumIsNoNumber();
         promise10SumIsWrong();
@@ -152,6 +153,8 @@ public final class NumbersTest {
         turnIs(-9223372036854777856.0, 4, Long.MIN_VALUE);
         turnIs(-INF, 4, Long.MIN_VALUE);
         turnIs(0.999, 4, 0);
+        turnIs(0x1p-12, 4, 0);
+        turnIs(-0x1.8p-11, 3, 0);
         turnIs(-Double.MAX_VALUE, 4, Long.MIN_VALUE);
         turnIs(-0.0, 6, Due.d(-0.0));
         turnIs(0.1, 6, Due.d(0.1));
@@ -193,6 +196,8 @@ public final class NumbersTest {
         turnIs(Double.MIN_VALUE, 5, 0);
         turnIs(-Double.MIN_VALUE, 5, Due.f(-0.0f));
         turnIs(0x1p-150, 5, 0);
+        turnIs(0x1p-161, 5, 0);
+        turnIs(-0x1.8p-162, 5, Due.f(-0.0f));
         turnIs(Math.nextUp(0x1p-150), 5, 1);
         turnIs(0x1.8p-149, 5, 2);
         turnIs(Math.nextDown(0x1p-126), 5, Due.f(Float.MIN_NORMAL));
@@ -310,6 +315,29 @@ public final class NumbersTest {
         t.get(0, true, 0);
         Due.tells("sum of none from below", t, t.sum(0, true, -5, 0), 0);
         Due.tells("ITEM 0 after it", t, t.get(0, true, 0), Due.d(0.1));
+    }
+
+    private static void sumOfTwoIs(double x, double y, double want) {
+        TideGauges t = Due.wideRow(x, y);
+        Due.tells("sum of " + x + " and " + y, t, t.sum(0, true, 0, 2), Due.d(want));
+    }
+
+    private static void promise10SumIsRounded() {
+        sumOfTwoIs(1, 0x1p-53, 1);
+        sumOfTwoIs(1, Math.nextUp(0x1p-53), Math.nextUp(1.0));
+        sumOfTwoIs(Math.nextUp(1.0), 0x1p-53, 1 + 0x1p-51);
+        sumOfTwoIs(1, -0x1p-54, 1);
+        sumOfTwoIs(1, -Math.nextUp(0x1p-54), Math.nextDown(1.0));
+        sumOfTwoIs(-1, Math.nextUp(0x1p-54), -Math.nextDown(1.0));
+        sumOfTwoIs(1, 0x1p-63, 1);
+        sumOfTwoIs(1, -0x1p-64, 1);
+        sumOfTwoIs(-1, 0x1.8p-65, -1);
+        sumOfTwoIs(Double.MAX_VALUE, Double.MIN_VALUE, Double.MAX_VALUE);
+        sumOfTwoIs(1, -Math.nextDown(1.0), 0x1p-53);
+        sumOfTwoIs(-1.5, 1.5, 0.0);
+        sumOfTwoIs(Double.MIN_NORMAL, -Double.MIN_VALUE, Double.MIN_NORMAL - Double.MIN_VALUE);
+        sumOfTwoIs(Double.MAX_VALUE, 0x1p970, INF);
+        sumOfTwoIs(Double.MAX_VALUE, Math.nextDown(0x1p970), Double.MAX_VALUE);
     }
 
     private static void promise10SumOfFloats() {
