@@ -1,3 +1,7 @@
+import java.io.IOException;
+import java.nio.file.Files;
+import java.nio.file.Path;
+
 /** What the tests share: answers that are due, and BITS of numbers. */
 final class Due {
     static final int BAD = -1;
@@ -11,17 +15,37 @@ final class Due {
     static final int WRAP = 1;
     static final int LONG = 2;
 
+    private static final Path DOCUMENT = Path.of("../shared/DOC.md");
+
     private static int wrong = 0;
     private static int asked = 0;
+    private static String sentence = "";
 
     private Due() {
+    }
+
+    /** The answers from here on are due by this sentence; it must stand in the document, word by word. */
+    static void by(String words) {
+        sentence = ", by \"" + words + "\"";
+        if (Files.exists(DOCUMENT) && !document().contains(words)) {
+            wrong++;
+            System.out.println("the document does not say: " + words);
+        }
+    }
+
+    private static String document() {
+        try {
+            return Files.readString(DOCUMENT).replaceAll("\\s+", " ");
+        } catch (IOException e) {
+            throw new IllegalStateException("the document can't be read", e);
+        }
     }
 
     static void due(String call, long got, long want) {
         asked++;
         if (got != want) {
             wrong++;
-            System.out.println(call + " answered " + got + ", due is " + want);
+            System.out.println(call + " answered " + got + ", due is " + want + sentence);
         }
     }
 

@@ -17,9 +17,11 @@ public final class LanguageTest {
         "int tide(int, boolean, int, int)", "int sum(int, boolean, int, int)", "long round(long, int)",
         "int gauge(int, int, long)", "int read(int, long, boolean)", "int rack(int, int)", "int hang(int, int, int)",
         "int take(int, int, int, int)", "long told()", "int count(int)"));
-    /** The class needs none of these, and most are outside the language. */
-    private static final String[] NOT_USED = {"import ", "package ", "Double.", "Float.", "Object", "throw", "catch",
-        "try", "finally", "assert", "synchronized", "->", "::", "System.", "values()", "strictfp", "native", "Exact("};
+    /** What rules 2, 3, 4, 6 and 13 leave out, and the names of what the machine throws. */
+    private static final String[] NOT_USED = {"package ", "Double.", "Float.", "Object", "finally", "assert",
+        "synchronized", "::", "strictfp", "native", "Exact(", "getMessage", "ArrayIndexOutOfBounds", "NullPointer",
+        "ClassCast", "NegativeArraySize", "ArrayStore", "Throwable", "Error", "(Exception", "System.currentTime",
+        "System.nanoTime", "System.out", "Thread", "Random"};
     private static final String SOURCE = "src/main/java/TideGauges.java";
 
     public static void main(String[] args) throws IOException {
@@ -74,8 +76,8 @@ public final class LanguageTest {
         }
         for (Class<?> c : allClasses()) {
             for (Method method : c.getDeclaredMethods()) {
-                boolean inFace = c == TideGauges.class && Modifier.isPublic(method.getModifiers());
-                holds(method + " has a name of its own", inFace || !names.contains(method.getName()));
+                boolean apart = !Modifier.isPrivate(method.getModifiers());
+                holds(method + " has a name of its own", apart || !names.contains(method.getName()));
             }
         }
     }
@@ -89,7 +91,8 @@ public final class LanguageTest {
 
     private static void rule2ClassesInside() {
         for (Class<?> c : TideGauges.class.getDeclaredClasses()) {
-            holds(c + " is private and static", Modifier.isPrivate(c.getModifiers()) && Modifier.isStatic(c.getModifiers()));
+            boolean seen = Modifier.isPublic(c.getModifiers()) || Modifier.isProtected(c.getModifiers());
+            holds(c + " is private or package-visible, and static", !seen && Modifier.isStatic(c.getModifiers()));
         }
     }
 
@@ -98,10 +101,15 @@ public final class LanguageTest {
             for (Field field : c.getDeclaredFields()) {
                 if (Modifier.isStatic(field.getModifiers()) && !field.isSynthetic()) {
                     holds(field + " is final", Modifier.isFinal(field.getModifiers()));
-                    holds(field + " is a constant", field.isEnumConstant() || field.getType().isPrimitive());
+                    holds(field + " is a constant", isConstant(field));
                 }
             }
         }
+    }
+
+    private static boolean isConstant(Field field) {
+        Class<?> type = field.getType();
+        return field.isEnumConstant() || type.isPrimitive() || type == String.class || type.isArray();
     }
 
     private static void rule11Sizes() {
@@ -123,6 +131,5 @@ public final class LanguageTest {
         for (String word : NOT_USED) {
             holds("the source has no '" + word + "'", !code.contains(word));
         }
-        holds("no float or double is used", !code.matches("(?s).*\\b(float|double)\\b.*"));
     }
 }
